@@ -586,6 +586,7 @@ public final class PetalPictures {
                 case FERN: return h - MOSS_KEEPS * sprays;
                 case BLUE:
                 case FINE: return h + sun;
+                case LICHEN:
                 default: return 0;
             }
         }
@@ -847,7 +848,7 @@ public final class PetalPictures {
         }
 
         boolean isPlannedBare(int cell) {
-            return laidAt(cell) == NONE && plannedAt(cell) != NONE;
+            return isCell(cell) && laid[cell] == NONE && planned[cell] != NONE;
         }
 
         void draw(int cell, int colour) {
@@ -935,27 +936,27 @@ public final class PetalPictures {
         }
 
         void passHours(int n) {
-            for (int i = 0; i < n; i++) {
-                passHour();
-            }
-        }
-
-        private void passHour() {
             for (int c = 0; c < CELLS; c++) {
                 if (laid[c] == NONE) {
                     continue;
                 }
                 if (isInSun(c, sunny)) {
-                    sun[c]++;
+                    sun[c] += n;
                 } else {
-                    shade[c]++;
+                    shade[c] += n;
                 }
             }
+            for (int i = 0; i < n; i++) {
+                dryForAnHour();
+            }
+            hour += n;
+        }
+
+        private void dryForAnHour() {
             wet = Math.max(0, wet - driedByAnHour());
             if (wet == 0) {
                 cracks++;
             }
-            hour++;
         }
 
         // days by draws
@@ -1007,18 +1008,22 @@ public final class PetalPictures {
             return Kind.freshness(board.kindOf(stuff), board.aOf(stuff), sun, shade, board.spraysAt(cell));
         }
 
-        static int beautyBehind(Board board, int cell, int atSide, int n) {
+        /** A stuff always has a colour, so where the drawing has none, nothing that is laid has its colour. */
+        private static boolean hasItsColour(Board board, int cell) {
             int stuff = board.laidAt(cell);
-            if (stuff == NONE || board.colourOf(stuff) != board.drawnAt(cell)) {
-                return 0;
-            }
-            return freshBehind(board, cell, atSide, n);
+            return stuff != NONE && board.colourOf(stuff) == board.drawnAt(cell);
+        }
+
+        static int beautyBehind(Board board, int cell, int atSide, int n) {
+            return hasItsColour(board, cell) ? freshBehind(board, cell, atSide, n) : 0;
         }
 
         static int looksBehind(Board board, int atSide, int n) {
             int looks = 0;
             for (int c = 0; c < CELLS; c++) {
-                looks += beautyBehind(board, c, atSide, n);
+                if (hasItsColour(board, c)) {
+                    looks += freshBehind(board, c, atSide, n);
+                }
             }
             return looks;
         }
@@ -1172,8 +1177,7 @@ public final class PetalPictures {
         static int cellsWrong(Board board) {
             int bits = 0;
             for (int c = 0; c < CELLS; c++) {
-                int stuff = board.laidAt(c);
-                if (stuff != NONE && board.colourOf(stuff) != board.drawnAt(c)) {
+                if (board.laidAt(c) != NONE && !hasItsColour(board, c)) {
                     bits |= 1 << c;
                 }
             }

@@ -114,6 +114,10 @@ public final class DrawingTest {
         Check.due("told over what there is", x.cellOf(23, 5), 2);
         Check.tell(x, "hours 99;hours 99");
         Check.due("hours", x.status(4), 208);
+        Check.tell(x, "side 1;side 0");
+        Check.due("side 0", x.status(3), 0);
+        Check.tell(x, "plan 0 0;plan 22 0;cell 0 1;cell 23 1;lay 22 0;lay 0 0");
+        Check.due("first and last numbers", x.cellOf(0, 0) + 10 * x.cellOf(0, 1) + 100 * x.cellOf(0, 2), 1);
         Check.due("nothing refused", x.status(16), 0);
     }
 

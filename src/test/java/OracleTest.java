@@ -1,6 +1,9 @@
 import java.lang.reflect.Method;
+import java.lang.reflect.Modifier;
 import java.util.ArrayList;
+import java.util.HashMap;
 import java.util.List;
+import java.util.Map;
 import java.util.Random;
 
 /** Random runs of calls, wild arguments among them, on the program and on Model: every answer must be the same. */
@@ -24,6 +27,9 @@ public final class OracleTest {
         "judge 1 0:7 0:40", "days 1 1:20", "seed 1 -2147483648:2147483647", "act 6 0:7 0:2 -99:99",
         "act 2 0:7 0:2 -2147483648:2147483647", "trace 4 0:9", "image 1", "restore 1", "status 3 0:17",
     };
+
+    private static final Map<String, Method> METHODS_OF_PROGRAM = new HashMap<>();
+    private static final Map<String, Method> METHODS_OF_MODEL = new HashMap<>();
 
     private static Random random;
     private static PetalPictures program;
@@ -118,17 +124,28 @@ public final class OracleTest {
     }
 
     private static long answer(Object of, String name, long[] args) throws Exception {
-        for (Method method : of.getClass().getDeclaredMethods()) {
-            if (!method.getName().equals(name) || method.getParameterCount() != args.length) {
-                continue;
+        Method method = methodOf(of, name);
+        Object[] given = new Object[args.length];
+        for (int i = 0; i < args.length; i++) {
+            boolean isLong = name.equals("set") && i == 2;
+            given[i] = isLong ? (Object) Long.valueOf(args[i]) : (Object) Integer.valueOf((int) args[i]);
+        }
+        return ((Number) method.invoke(of, given)).longValue();
+    }
+
+    /** The public method of a name (none has two), looked up once. */
+    private static Method methodOf(Object of, String name) {
+        Map<String, Method> known = of == program ? METHODS_OF_PROGRAM : METHODS_OF_MODEL;
+        Method method = known.get(name);
+        if (method != null) {
+            return method;
+        }
+        for (Method one : of.getClass().getDeclaredMethods()) {
+            if (one.getName().equals(name) && Modifier.isPublic(one.getModifiers())) {
+                one.setAccessible(true);
+                known.put(name, one);
+                return one;
             }
-            Object[] given = new Object[args.length];
-            for (int i = 0; i < args.length; i++) {
-                boolean isLong = method.getParameterTypes()[i] == long.class;
-                given[i] = isLong ? (Object) Long.valueOf(args[i]) : (Object) Integer.valueOf((int) args[i]);
-            }
-            method.setAccessible(true);
-            return ((Number) method.invoke(of, given)).longValue();
         }
         throw new IllegalStateException("no method " + name);
     }

@@ -85,6 +85,13 @@ public final class ShelfTest {
         Check.due("a shorter row has no more", x.set(1, 2, 9), -5);
         x.row(1, 1, 3);
         Check.due("what was there is gone", x.element(1, 2), 0);
+        x.set(1, 2, 9);
+        x.show(1, 0);
+        Check.due("element where a row was, of a stuff", x.element(1, 2), 0);
+        x.row(1, 1, 3);
+        x.set(1, 2, 9);
+        x.show(1, -1);
+        Check.due("element where a row was, of nothing", x.element(1, 2), 0);
     }
 
     private static void sortsKeepLowestBits() {
@@ -215,5 +222,11 @@ public final class ShelfTest {
         x.row(7, 0, 0);
         Check.due("a row", x.says(7, 0), -2);
         Check.refusals(x, 4, 34, 1);
+        // brown 48 by 7 is 6; an hour in the shade more would make it 7, a spray more would tell on the fine one
+        PetalPictures y = Check.told("stuff 4 0 6;stuff 5 0 6");
+        y.show(0, 0);
+        y.show(1, 1);
+        Check.due("none in the shade", y.says(0, 4), 3);
+        Check.due("none in the shade", y.says(1, 5), 1);
     }
 }

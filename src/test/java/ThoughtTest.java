@@ -100,6 +100,10 @@ public final class ThoughtTest {
         Check.due("worst of one", x.worst(240, 240), 240);
         Check.due("nothing is changed", x.status(4), 0);
         Check.due("nothing is changed", x.looks(0), 27);
+        Check.due("worst of two", x.worst(20, 21), 21);
+        Check.due("worst of three", x.worst(20, 22), 21);
+        PetalPictures top = Check.told("stuff 0 4 0;cell 0 4;lay 0 0");
+        Check.due("looks of cell 0", top.looks(2), 7);
         Check.due("worst of nothing", new PetalPictures().worst(7, 240), 7);
     }
 
@@ -126,6 +130,13 @@ public final class ThoughtTest {
         PetalPictures y = Check.told("stuff 4 1 9;stuff 0 1 5;cell 20 1;cell 22 1;side 1");
         Check.due("blue in the sun", y.best(20, 0, 12, 0), 1);
         Check.due("blue in the shade", y.best(22, 0, 12, 0), 0);
+
+        // in the sun all the hours: behind 9 of them a petal of 10 is whole still, so it is like a lichen
+        PetalPictures z = Check.told("stuff 0 1 9;stuff 3 1 9;stuff 0 2 0;stuff 2 2 0;cell 20 1;cell 22 2;side 1");
+        Check.due("no hour in the shade", z.best(20, 0, 9, 0), 0);
+        Check.due("an hour more", z.best(20, 0, 10, 0), 1);
+        Check.due("an hour more", z.best(20, 0, 10, 1), 1);
+        Check.due("moss without sprays is like a petal", z.best(22, 0, 9, 0), 2);
 
         Check.due("no cell", x.best(24, 0, 1, 2), -11);
         Check.due("no cell", x.best(-1, 0, 1, 0), -11);
@@ -167,6 +178,8 @@ public final class ThoughtTest {
         Check.due("it may now", x.next(), 5);
         x.plan(5, -1);
         Check.due("none planned", x.next(), -1);
+        x.plan(0, 0);
+        Check.due("the last of all", x.next(), 0);
     }
 
     private static void work() {
@@ -308,6 +321,15 @@ public final class ThoughtTest {
         Check.due("longs by their lowest 32 bits", x.age(1, 2), 14);
         Check.putInts(x, 0, -1, 0);
         Check.due("never", x.age(0, 2), -1);
+        // moss of 35 sprays keeps for 210 hours; brown 30 by 10 is 3 behind 240
+        PetalPictures old = Check.told("stuff 2 0 9;lay 0 0");
+        for (int i = 0; i < 35; i++) {
+            old.spray();
+        }
+        Check.putInts(old, 0, 6);
+        Check.due("the last hour", old.age(0, 1), 240);
+        Check.putInts(old, 0, 5);
+        Check.due("behind the last hour", old.age(0, 1), -1);
         Check.due("nothing refused", x.status(16), 0);
         Check.due("no shelf", x.age(8, -1), -11);
         Check.due("no shelf", x.age(-1, 2), -11);
@@ -341,6 +363,11 @@ public final class ThoughtTest {
         Check.due("drawn anew", x.wrong(), 6 + (1 << 23));
         x.strip(23);
         Check.due("bare", x.wrong(), 6);
+        x.cell(0, 6);
+        Check.due("lacking of cell 0", x.lacking(), 8 + 64);
+        x.cell(4, -1);
+        x.lay(0, 0);
+        Check.due("wrong of cell 0", x.wrong(), 7);
     }
 
     private static void judge() {

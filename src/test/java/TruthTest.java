@@ -51,6 +51,13 @@ public final class TruthTest {
         Check.due("new hours", x.cellOf(20, 4), 0);
         Check.due("new sprays", x.cellOf(20, 5), 0);
         Check.refusals(x, 2, 0, 0, 0, 0, 2, 0);
+        Check.tell(x, "lay 0 1;side 1;hours 5;spray");
+        Check.due("hours in the sun of cell 0", x.cellOf(0, 3), 5);
+        Check.due("sprays of cell 0", x.cellOf(0, 5), 1);
+        Check.due("strip", x.strip(0), 1);
+        Check.due("no hours in the sun of a bare one", x.cellOf(0, 3), 0);
+        x.lay(0, 0);
+        Check.due("none of one laid anew", x.cellOf(0, 3), 0);
     }
 
     private static void sprays() {
@@ -157,6 +164,20 @@ public final class TruthTest {
         Check.due("cracks", x.status(5), cracks);
         Check.due("most", x.days(20) >= 0 ? 1 : 0, 1);
         Check.due("hour", x.status(4), 24 * 32);
+
+        // with side 0 drawn first, what is left behind 24 hours is 54 less 24, just not below 30
+        PetalPictures edge = new PetalPictures();
+        edge.hours(6);
+        int seedOfShade = 1;
+        while (((seedOfShade * 1103515245 + 12345) >>> 16) % 3 != 0) {
+            seedOfShade++;
+        }
+        edge.seed(seedOfShade);
+        edge.days(1);
+        Check.due("no spray at 30", edge.status(2), 30);
+        edge.seed(seedOfShade);
+        edge.days(1);
+        Check.due("a spray below 30", edge.status(2), 16);
 
         PetalPictures once = Check.told("stuff 0 0 0;lay 20 0;hours 7");
         once.spray();
