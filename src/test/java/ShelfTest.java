@@ -85,13 +85,16 @@ public final class ShelfTest {
         Check.due("a shorter row has no more", x.set(1, 2, 9), -5);
         x.row(1, 1, 3);
         Check.due("what was there is gone", x.element(1, 2), 0);
-        x.set(1, 2, 9);
-        x.show(1, 0);
-        Check.due("element where a row was, of a stuff", x.element(1, 2), 0);
-        x.row(1, 1, 3);
-        x.set(1, 2, 9);
-        x.show(1, -1);
-        Check.due("element where a row was, of nothing", x.element(1, 2), 0);
+        for (int i = 0; i < 3; i++) {
+            x.row(1, 1, 3);
+            x.set(1, i, 9);
+            x.show(1, 0);
+            Check.due("element where a row was, of a stuff", x.element(1, i), 0);
+            x.row(1, 1, 3);
+            x.set(1, i, 9);
+            x.show(1, -1);
+            Check.due("element where a row was, of nothing", x.element(1, i), 0);
+        }
     }
 
     private static void sortsKeepLowestBits() {

@@ -157,6 +157,8 @@ public final class ThoughtTest {
         PetalPictures y = Check.told("stuff 4 1 1;cell 23 1;lay 23 0;side 1");
         Check.due("the first of alike ones", y.turn(0, 20), 0);
         Check.due("what is dead stays dead", y.turn(100, 240), 0);
+        PetalPictures z = Check.told("stuff 4 1 1;cell 20 1;lay 20 0;side 1");
+        Check.due("sides 0 and 2 are alike", z.turn(0, 20), 0);
     }
 
     private static void next() {
