@@ -6,10 +6,16 @@ import java.util.List;
 import java.util.Map;
 import java.util.Random;
 
-/** Random runs of calls, wild arguments among them, on the program and on Model: every answer must be the same. */
+/**
+ * Random runs of calls, wild arguments among them, on the program and on Model: every answer must be the same. No
+ * object gets more than the 512 calls that the document promises.
+ */
 public final class OracleTest {
-    private static final int RUNS = 400;
-    private static final int CALLS = 500;
+    private static final int RUNS = 900;
+    private static final int MOST_CALLS = 512;
+    /** What tellVillage, tellFreshness and compareAll need at most. */
+    private static final int CALLS_OF_A_TEXT = 100;
+    private static final int CALLS_TO_COMPARE = 340;
     private static final int LOG_SHOWN = 60;
 
     /** Each call with its arguments' usual ranges, and how often it comes. */
@@ -28,12 +34,19 @@ public final class OracleTest {
         "act 2 0:7 0:2 -2147483648:2147483647", "trace 4 0:9", "image 1", "restore 1", "status 3 0:17",
     };
 
+    /** What tells how things stand: asked often, for not all is compared at every step. */
+    private static final String[] LOOKS = {
+        "status 1 0:17", "cellOf 1 0:23 0:5", "cellOf 1 12:23 1:1", "stuffOf 1 0:7 0:2", "holds 1 0:7", "element 1 0:7 0:12",
+        "trace 1 0:9", "fault 1", "looks 1 0:9", "wrong 1", "lacking 1", "next 1",
+    };
+
     private static final Map<String, Method> METHODS_OF_PROGRAM = new HashMap<>();
     private static final Map<String, Method> METHODS_OF_MODEL = new HashMap<>();
 
     private static Random random;
     private static PetalPictures program;
     private static Model model;
+    private static int calls;
     private static final List<String> log = new ArrayList<>();
     private static boolean alike;
 
@@ -54,27 +67,43 @@ public final class OracleTest {
         random = new Random(run);
         program = new PetalPictures();
         model = new Model();
+        calls = 0;
         log.clear();
         alike = true;
-        for (int calls = 0; alike && calls < CALLS; calls++) {
-            int choice = random.nextInt(100);
-            if (choice < 3) {
-                tellVillage();
-            } else if (choice < 5) {
-                tellFreshness();
-            } else if (choice < 7) {
-                tellLayings();
-            } else {
-                callAsTold(bag.get(random.nextInt(bag.size())));
-            }
-            if (calls % 10 == 9) {
-                compareAll();
-            }
+        // some runs end with a look at everything, the others go on as far as they may
+        boolean looksAtAll = run % 3 == 0;
+        int last = MOST_CALLS - CALLS_OF_A_TEXT - (looksAtAll ? CALLS_TO_COMPARE : 0);
+        while (alike && calls < last) {
+            oneStep(bag);
+        }
+        while (alike && !looksAtAll && calls < MOST_CALLS) {
+            callAsTold(bag.get(random.nextInt(bag.size())));
+        }
+        if (alike && looksAtAll) {
+            compareAll();
+        }
+        if (calls > MOST_CALLS) {
+            Check.fail("OracleTest, run " + run + ": " + calls + " calls");
         }
         if (!alike) {
             int from = Math.max(0, log.size() - LOG_SHOWN);
             Check.fail("OracleTest, run " + run + ", .. " + from + " rows .. "
                 + String.join("; ", log.subList(from, log.size())));
+        }
+    }
+
+    private static void oneStep(List<String> bag) throws Exception {
+        int choice = random.nextInt(200);
+        if (choice < 4) {
+            tellVillage();
+        } else if (choice < 8) {
+            tellFreshness();
+        } else if (choice < 12) {
+            tellLayings();
+        } else if (choice < 40) {
+            callAsTold(LOOKS[random.nextInt(LOOKS.length)]);
+        } else {
+            callAsTold(bag.get(random.nextInt(bag.size())));
         }
     }
 
@@ -107,6 +136,7 @@ public final class OracleTest {
     }
 
     private static long call(String name, long... args) throws Exception {
+        calls++;
         long got = answer(program, name, args);
         long want = answer(model, name, args);
         StringBuilder text = new StringBuilder(name).append('(');
@@ -152,7 +182,7 @@ public final class OracleTest {
 
     private static String item() {
         String number = random.nextInt(6) == 0 ? "0" : "";
-        int stuff = random.nextInt(Math.max(1, program.status(0)) + (random.nextInt(12) == 0 ? 1 : 0));
+        int stuff = random.nextInt(Math.max(1, model.status(0)) + (random.nextInt(12) == 0 ? 1 : 0));
         switch (random.nextInt(9)) {
             case 0: return "stuff " + random.nextInt(7) + " " + random.nextInt(3) + " " + number + random.nextInt(10);
             case 1: return "cell " + random.nextInt(24) + " " + number + random.nextInt(8);
@@ -196,13 +226,13 @@ public final class OracleTest {
 
     private static void tellFreshness() throws Exception {
         int s = random.nextInt(8);
-        int n = program.status(1);
+        int n = model.status(1);
         int hour = random.nextInt(random.nextBoolean() ? 241 : 20);
         call("row", s, random.nextInt(4), n + random.nextInt(2));
         int i = 0;
         for (int c = 0; c < 24; c++) {
-            if (program.cellOf(c, 1) != -1) {
-                call("set", s, i, program.fresh(c, hour) + (random.nextInt(150) == 0 ? 1 : 0));
+            if (model.cellOf(c, 1) != -1) {
+                call("set", s, i, model.fresh(c, hour) + (random.nextInt(150) == 0 ? 1 : 0));
                 i++;
             }
         }
@@ -215,17 +245,16 @@ public final class OracleTest {
         call("row", s, 1 + random.nextInt(3), n);
         for (int i = 0; i < n; i++) {
             int cell = random.nextInt(i < 3 ? 24 : 25);
-            for (int tries = 0; tries < 20 && cell < 24 && program.may(cell) != 1; tries++) {
+            for (int tries = 0; tries < 20 && cell < 24 && model.may(cell) != 1; tries++) {
                 cell = random.nextInt(24);
             }
-            call("set", s, i, cell * 10 + random.nextInt(Math.max(1, program.status(0))));
+            call("set", s, i, cell * 10 + random.nextInt(Math.max(1, model.status(0))));
         }
         call("judge", s, n);
     }
 
     /** All that can be asked without changing anything. */
     private static void compareAll() throws Exception {
-        int mark = log.size();
         for (int what = -1; what < 19; what++) {
             call("status", what);
         }
@@ -234,7 +263,7 @@ public final class OracleTest {
                 call("cellOf", c, what);
             }
         }
-        for (int stuff = 0; stuff < program.status(0); stuff++) {
+        for (int stuff = 0; stuff < model.status(0); stuff++) {
             for (int what = 0; what < 3; what++) {
                 call("stuffOf", stuff, what);
             }
@@ -249,8 +278,5 @@ public final class OracleTest {
             call("trace", i);
         }
         call("fault");
-        if (alike) {
-            log.subList(mark, log.size()).clear();
-        }
     }
 }
