@@ -1,4 +1,7 @@
-/** Part 2 of the terms and promises 22 to 24 and 34, a sentence of the document ahead of each test: the edges of fading. */
+/**
+ * Part 2 of the terms and promises 22 to 24 and 34, a sentence of the document ahead of each test: the edges of
+ * fading.
+ */
 public final class EdgesOfFadingTest {
     private static final int PETAL = 0;
     private static final int SEED = 1;
@@ -109,7 +112,8 @@ public final class EdgesOfFadingTest {
             fresh(FINE, 0, 0, 0, one[0], one[1]);
             fresh(FINE, 9, 0, 9, one[0], one[1]);
         }
-        int[][] due = {{1, 0, 0, 7}, {1, 0, 1, 6}, {1, 0, 6, 1}, {1, 0, 7, 0}, {1, 0, 8, 0}, {4, 0, 1, 0}, {4, 0, 0, 1},
+        int[][] due = {{1, 0, 0, 7}, {1, 0, 1, 6}, {1, 0, 6, 1}, {1, 0, 7, 0}, {1, 0, 8, 0}, {4, 0, 1, 0}, {4, 0, 0,
+            1},
             {5, 0, 0, 0}, {5, 0, 20, 0}, {240, 240, 20, 0}, {0, 8, 0, 1}, {0, 8, 1, 0}, {0, 9, 1, 0}};
         for (int[] one : due) {
             fresh(FINE, 0, one[0], one[1], one[2], one[3]);
@@ -136,7 +140,8 @@ public final class EdgesOfFadingTest {
     private static void byAAnd1Cut() {
         for (int a = 0; a <= 9; a++) {
             int part = a + 1;
-            inShade(PETAL, a, 0, 0, 9, part - 1, 9, part, 8, 2 * part - 1, 8, 2 * part, 7, 9 * part - 1, 1, 9 * part, 0);
+            inShade(PETAL, a, 0, 0, 9, part - 1, 9, part, 8, 2 * part - 1, 8, 2 * part, 7, 9 * part - 1, 1, 9 * part,
+                0);
         }
     }
 
@@ -163,10 +168,11 @@ public final class EdgesOfFadingTest {
     /** was: "-6 HOURS not 0 to 240 each, SPRAYS not 0 to 20, FRESH not 0 to 9." */
     private static void wasNumbers() {
         Run run = new Run("stuff(3, 0, 0)");
-        run.dues("was(-1, 0, 0, 9) -6", "was(0, 0, 0, 9) 1", "was(240, 0, 0, 9) 1", "was(241, 0, 0, 9) -6", "was(0, -1, 0, 9) -6",
-            "was(0, 240, 0, 9) 1", "was(0, 241, 0, 9) -6", "was(0, 0, -1, 9) -6", "was(0, 0, 20, 9) 1", "was(0, 0, 21, 9) -6",
-            "was(0, 0, 0, -1) -6", "was(0, 0, 0, 0) 0", "was(0, 0, 0, 10) -6", "was(240, 240, 20, 9) 1", "was(MIN, 0, 0, 9) -6",
-            "was(MAX, 0, 0, 9) -6", "was(0, MIN, 0, 9) -6", "was(0, MAX, 0, 9) -6", "was(0, 0, MIN, 9) -6", "was(0, 0, MAX, 9) -6",
+        run.dues("was(-1, 0, 0, 9) -6", "was(0, 0, 0, 9) 1", "was(240, 0, 0, 9) 1", "was(241, 0, 0, 9) -6",
+            "was(0, -1, 0, 9) -6", "was(0, 240, 0, 9) 1", "was(0, 241, 0, 9) -6", "was(0, 0, -1, 9) -6",
+            "was(0, 0, 20, 9) 1", "was(0, 0, 21, 9) -6", "was(0, 0, 0, -1) -6", "was(0, 0, 0, 0) 0",
+            "was(0, 0, 0, 10) -6", "was(240, 240, 20, 9) 1", "was(MIN, 0, 0, 9) -6", "was(MAX, 0, 0, 9) -6",
+            "was(0, MIN, 0, 9) -6", "was(0, MAX, 0, 9) -6", "was(0, 0, MIN, 9) -6", "was(0, 0, MAX, 9) -6",
             "was(0, 0, 0, MIN) -6", "was(0, 0, 0, MAX) -6");
         run.refused(0, 0, 0, 0, 0, 16, 0);
     }
@@ -178,7 +184,8 @@ public final class EdgesOfFadingTest {
         for (int stuff = 0; stuff < 8; stuff++) {
             run.and("stuff(0, 0, " + stuff + ")").due("was(0, 0, 0, 9)", (2 << stuff) - 1);
         }
-        run.dues("was(0, 0, 0, 8) 0", "was(1, 0, 0, 8) 1", "was(0, 7, 0, 9) 128", "was(0, 7, 0, 8) 120", "was(4, 3, 0, 2) 1");
+        run.dues("was(0, 0, 0, 8) 0", "was(1, 0, 0, 8) 1", "was(0, 7, 0, 9) 128", "was(0, 7, 0, 8) 120",
+            "was(4, 3, 0, 2) 1");
     }
 
     /** fresh, beauty: "behind n HOURS (0 to 240) .. -6". */
@@ -186,40 +193,42 @@ public final class EdgesOfFadingTest {
         Run run = new Run("stuff(2, 4, 9)", "cell(6, 4)", "lay(6, 0)");
         String[] calls = {"fresh(6, ", "beauty(6, "};
         for (String call : calls) {
-            run.dues(call + "-1) -6", call + "0) 9", call + "9) 9", call + "10) 8", call + "89) 1", call + "90) 0", call + "240) 0",
-                call + "241) -6", call + "MIN) -6", call + "MAX) -6");
+            run.dues(call + "-1) -6", call + "0) 9", call + "9) 9", call + "10) 8", call + "89) 1", call + "90) 0",
+                call + "240) 0", call + "241) -6", call + "MIN) -6", call + "MAX) -6");
         }
         run.refused(0, 0, 0, 0, 0, 8, 0);
         Run lichen = new Run("stuff(3, 4, 0)", "cell(6, 4)", "lay(6, 0)");
-        lichen.dues("fresh(6, 240) 9", "fresh(6, 241) -6", "beauty(6, 240) 9", "beauty(6, 241) -6", "looks(240) 9", "looks(241) -6");
+        lichen.dues("fresh(6, 240) 9", "fresh(6, 241) -6", "beauty(6, 240) 9", "beauty(6, 241) -6", "looks(240) 9",
+            "looks(241) -6");
     }
 
     /** fresh: "0 of a BARE one. -1; -6." */
     private static void freshOfABareOne() {
         Run run = new Run("stuff(3, 0, 0)", "cell(0, 0)");
-        run.dues("fresh(0, 0) 0", "fresh(0, 240) 0", "beauty(0, 0) 0", "fresh(0, 241) -6", "beauty(0, -1) -6", "fresh(24, 0) -1",
-            "lay(0, 0) 1", "fresh(0, 0) 9", "strip(0) 0", "fresh(0, 0) 0", "beauty(0, 240) 0");
+        run.dues("fresh(0, 0) 0", "fresh(0, 240) 0", "beauty(0, 0) 0", "fresh(0, 241) -6", "beauty(0, -1) -6",
+            "fresh(24, 0) -1", "lay(0, 0) 1", "fresh(0, 0) 9", "strip(0) 0", "fresh(0, 0) 0", "beauty(0, 240) 0");
         run.refused(1, 0, 0, 0, 0, 2, 0);
     }
 
     /** "(in thought: behind n HOURS, SIDE as it is ..)": what has been counts, too. */
     private static void hoursSoFarAndStillToCome() {
         Run run = new Run("stuff(0, 0, 0)", "stuff(4, 0, 0)", "lay(0, 0)", "lay(1, 1)", "lay(2, 1)", "hours(5)");
-        run.dues("fresh(0, 0) 4", "fresh(0, 3) 1", "fresh(0, 4) 0", "fresh(0, 240) 0", "fresh(1, 0) 4", "fresh(1, 4) 0", "side(1) 0",
-            "fresh(1, 0) 4", "fresh(1, 1) 2", "fresh(1, 2) 0", "fresh(2, 1) 3", "fresh(2, 3) 1", "fresh(0, 3) 1", "side(2) 1",
-            "fresh(1, 3) 1", "fresh(2, 1) 2", "fresh(2, 2) 0", "hours(1) 6", "fresh(1, 0) 3", "fresh(2, 0) 2", "side(0) 2",
-            "fresh(2, 1) 1", "fresh(2, 2) 0");
+        run.dues("fresh(0, 0) 4", "fresh(0, 3) 1", "fresh(0, 4) 0", "fresh(0, 240) 0", "fresh(1, 0) 4",
+            "fresh(1, 4) 0", "side(1) 0", "fresh(1, 0) 4", "fresh(1, 1) 2", "fresh(1, 2) 0", "fresh(2, 1) 3",
+            "fresh(2, 3) 1", "fresh(0, 3) 1", "side(2) 1", "fresh(1, 3) 1", "fresh(2, 1) 2", "fresh(2, 2) 0",
+            "hours(1) 6", "fresh(1, 0) 3", "fresh(2, 0) 2", "side(0) 2", "fresh(2, 1) 1", "fresh(2, 2) 0");
         Run old = new Run("stuff(6, 0, 9)", "lay(0, 0)", "hours(48)");
         old.dues("fresh(0, 0) 5", "fresh(0, 1) 0", "hours(1) 49", "fresh(0, 0) 0");
-        Run ancient = new Run("stuff(0, 0, 9)", "stuff(3, 0, 0)", "lay(0, 0)", "lay(1, 1)", "hours(240)", "hours(240)");
+        Run ancient = new Run("stuff(0, 0, 9)", "stuff(3, 0, 0)", "lay(0, 0)", "lay(1, 1)", "hours(240)",
+            "hours(240)");
         ancient.dues("fresh(0, 240) 0", "fresh(1, 240) 9");
     }
 
     /** "no more SPRAYS": those that were still count. */
     private static void noMoreSprays() {
         Run run = new Run("stuff(2, 0, 0)", "stuff(5, 0, 9)", "lay(0, 0)", "lay(1, 1)", "spray()");
-        run.dues("fresh(0, 6) 9", "fresh(0, 7) 8", "fresh(1, 0) 8", "fresh(1, 9) 8", "fresh(1, 10) 7", "spray() 80", "fresh(0, 12) 9",
-            "fresh(0, 13) 8", "fresh(1, 0) 7");
+        run.dues("fresh(0, 6) 9", "fresh(0, 7) 8", "fresh(1, 0) 8", "fresh(1, 9) 8", "fresh(1, 10) 7", "spray() 80",
+            "fresh(0, 12) 9", "fresh(0, 13) 8", "fresh(1, 0) 7");
         for (int i = 0; i < 10; i++) {
             run.and("spray()");
         }
@@ -249,15 +258,15 @@ public final class EdgesOfFadingTest {
             run.and("lay(" + cell + ", 0)", "cell(" + cell + ", 0)");
             run.due("looks(240)", 9 * (cell + 1));
         }
-        run.dues("all(0, 240) 52056", "worst(0, 240) 0", "cell(0, 1) 1", "looks(0) 207", "cell(0, -1) 0", "looks(0) 207", "strip(23) 0",
-            "looks(0) 198");
+        run.dues("all(0, 240) 52056", "worst(0, 240) 0", "cell(0, 1) 1", "looks(0) 207", "cell(0, -1) 0",
+            "looks(0) 207", "strip(23) 0", "looks(0) 198");
     }
 
     /** looks: "LOOKS behind n HOURS. -6." */
     private static void looksBehindHours() {
         Run run = new Run("stuff(0, 0, 0)", "stuff(0, 0, 1)", "cell(0, 0)", "cell(23, 0)", "lay(0, 0)", "lay(23, 1)");
-        run.dues("looks(-1) -6", "looks(0) 18", "looks(1) 17", "looks(2) 15", "looks(9) 5", "looks(17) 1", "looks(18) 0", "looks(240) 0",
-            "looks(241) -6", "looks(MIN) -6", "looks(MAX) -6");
+        run.dues("looks(-1) -6", "looks(0) 18", "looks(1) 17", "looks(2) 15", "looks(9) 5", "looks(17) 1",
+            "looks(18) 0", "looks(240) 0", "looks(241) -6", "looks(MIN) -6", "looks(MAX) -6");
         run.refused(0, 0, 0, 0, 0, 4, 0);
     }
 }

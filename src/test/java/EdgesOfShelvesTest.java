@@ -31,8 +31,8 @@ public final class EdgesOfShelvesTest {
     /** "No STUFFS, a BARE board without a drawing"; "NOTHING (at first)"; "60 at first"; "1 at first". */
     private static void newObject() {
         Run run = new Run();
-        run.dues("status(0) 0", "status(1) 0", "status(2) 60", "status(3) 0", "status(4) 0", "status(5) 0", "status(6) 1",
-            "status(7) 0", "fault() -1", "trace(0) -1", "stuffOf(0, 0) -5", "restore() -6");
+        run.dues("status(0) 0", "status(1) 0", "status(2) 60", "status(3) 0", "status(4) 0", "status(5) 0",
+            "status(6) 1", "status(7) 0", "fault() -1", "trace(0) -1", "stuffOf(0, 0) -5", "restore() -6");
         run.refused(0, 0, 0, 0, 1, 1, 0);
         for (int cell = 0; cell < 24; cell++) {
             for (int what = 0; what < 6; what++) {
@@ -47,45 +47,47 @@ public final class EdgesOfShelvesTest {
     /** What an empty board answers. */
     private static void newObjectAnswers() {
         Run run = new Run();
-        run.dues("fresh(0, 0) 0", "fresh(23, 240) 0", "beauty(0, 0) 0", "beauty(23, 240) 0", "looks(0) 0", "looks(240) 0",
-            "worst(0, 240) 0", "worst(240, 240) 240", "all(0, 240) 0", "best(0, 0, 240, 0) -1", "best(23, 0, 240, 1) -1",
-            "turn(0, 240) 0", "next() -1", "done(1) 0", "done(6) 0", "women(0) 1", "women(999) 1", "dry() 60",
-            "sprayings(0) 0", "sprayings(59) 0", "sprayings(60) 1", "was(0, 0, 0, 9) 0", "was(240, 240, 20, 0) 0",
-            "lacking() 0", "wrong() 0", "act(0, 0, 0) 0", "strip(0) -6", "image() 0", "restore() 0");
+        run.dues("fresh(0, 0) 0", "fresh(23, 240) 0", "beauty(0, 0) 0", "beauty(23, 240) 0", "looks(0) 0",
+            "looks(240) 0", "worst(0, 240) 0", "worst(240, 240) 240", "all(0, 240) 0", "best(0, 0, 240, 0) -1",
+            "best(23, 0, 240, 1) -1", "turn(0, 240) 0", "next() -1", "done(1) 0", "done(6) 0", "women(0) 1",
+            "women(999) 1", "dry() 60", "sprayings(0) 0", "sprayings(59) 0", "sprayings(60) 1", "was(0, 0, 0, 9) 0",
+            "was(240, 240, 20, 0) 0", "lacking() 0", "wrong() 0", "act(0, 0, 0) 0", "strip(0) -6", "image() 0",
+            "restore() 0");
         run.and("row(0, 0, 0)").dues("age(0, 0) 0", "judge(0, 0) -1", "village(0) -6", "fault() 0");
     }
 
     /** "SHELVES 0 to 7". */
     private static void shelvesAre0To7() {
         Run run = new Run("stuff(0, 0, 0)");
-        run.dues("row(0, 0, 1) 1", "row(7, 0, 1) 1", "row(-1, 0, 1) -1", "row(8, 0, 1) -1", "set(0, 0, 5) 1", "set(7, 0, 6) 1",
-            "set(-1, 0, 1) -1", "set(8, 0, 1) -1", "element(0, 0) 5", "element(7, 0) 6", "element(-1, 0) 0",
-            "element(8, 0) 0", "copy(0, 7, 0, 0, 1) 1", "element(7, 0) 5", "copy(7, 0, 0, 0, 1) 1",
-            "copy(-1, 0, 0, 0, 1) -1", "copy(8, 0, 0, 0, 1) -1", "copy(0, -1, 0, 0, 1) -1", "copy(0, 8, 0, 0, 1) -1",
-            "village(-1) -1", "village(8) -1", "village(0) -6", "village(7) -6", "age(-1, 0) -11", "age(8, 0) -11",
-            "age(0, 0) 0", "age(7, 0) 0", "judge(-1, 0) -11", "judge(8, 0) -11", "judge(0, 0) -1", "judge(7, 0) -1",
-            "show(0, 0) 1", "show(7, 0) 1", "show(-1, 0) -1", "show(8, 0) -1", "holds(0) 0", "holds(7) 0", "holds(-1) -1",
-            "holds(8) -1", "says(0, 0) 0", "says(7, 0) 0", "says(-1, 0) -1", "says(8, 0) -1", "row(MIN, 0, 1) -1",
-            "row(MAX, 0, 1) -1", "element(MIN, 0) 0", "element(MAX, 0) 0", "holds(MIN) -1", "holds(MAX) -1");
+        run.dues("row(0, 0, 1) 1", "row(7, 0, 1) 1", "row(-1, 0, 1) -1", "row(8, 0, 1) -1", "set(0, 0, 5) 1",
+            "set(7, 0, 6) 1", "set(-1, 0, 1) -1", "set(8, 0, 1) -1", "element(0, 0) 5", "element(7, 0) 6",
+            "element(-1, 0) 0", "element(8, 0) 0", "copy(0, 7, 0, 0, 1) 1", "element(7, 0) 5",
+            "copy(7, 0, 0, 0, 1) 1", "copy(-1, 0, 0, 0, 1) -1", "copy(8, 0, 0, 0, 1) -1", "copy(0, -1, 0, 0, 1) -1",
+            "copy(0, 8, 0, 0, 1) -1", "village(-1) -1", "village(8) -1", "village(0) -6", "village(7) -6",
+            "age(-1, 0) -11", "age(8, 0) -11", "age(0, 0) 0", "age(7, 0) 0", "judge(-1, 0) -11", "judge(8, 0) -11",
+            "judge(0, 0) -1", "judge(7, 0) -1", "show(0, 0) 1", "show(7, 0) 1", "show(-1, 0) -1", "show(8, 0) -1",
+            "holds(0) 0", "holds(7) 0", "holds(-1) -1", "holds(8) -1", "says(0, 0) 0", "says(7, 0) 0",
+            "says(-1, 0) -1", "says(8, 0) -1", "row(MIN, 0, 1) -1", "row(MAX, 0, 1) -1", "element(MIN, 0) 0",
+            "element(MAX, 0) 0", "holds(MIN) -1", "holds(MAX) -1");
         run.refused(20, 0, 0, 0, 0, 2, 0);
     }
 
     /** "0 to 160 elements"; row: "-4; .. -7 n above 160". */
     private static void rowsHave0To160Elements() {
         Run run = new Run();
-        run.dues("row(0, 0, -1) -4", "holds(0) -1", "row(0, 0, 0) 1", "holds(0) 100", "set(0, 0, 1) -5", "row(0, 0, 1) 1",
-            "set(0, 0, 1) 1", "set(0, 1, 1) -5", "row(0, 0, 159) 1", "set(0, 158, 1) 1", "set(0, 159, 1) -5",
-            "row(0, 0, 160) 1", "set(0, 159, 1) 1", "set(0, 160, 1) -5", "row(0, 0, 161) -7", "element(0, 159) 1",
-            "row(0, 0, MAX) -7", "row(0, 0, MIN) -4", "set(0, 159, 2) 1");
+        run.dues("row(0, 0, -1) -4", "holds(0) -1", "row(0, 0, 0) 1", "holds(0) 100", "set(0, 0, 1) -5",
+            "row(0, 0, 1) 1", "set(0, 0, 1) 1", "set(0, 1, 1) -5", "row(0, 0, 159) 1", "set(0, 158, 1) 1",
+            "set(0, 159, 1) -5", "row(0, 0, 160) 1", "set(0, 159, 1) 1", "set(0, 160, 1) -5", "row(0, 0, 161) -7",
+            "element(0, 159) 1", "row(0, 0, MAX) -7", "row(0, 0, MIN) -4", "set(0, 159, 2) 1");
         run.refused(0, 0, 0, 2, 4, 0, 2);
     }
 
     /** "a SORT (0 bytes, 1 shorts, 2 ints, 3 longs)"; row: "-6 SORT". */
     private static void sortsAre0To3() {
         Run run = new Run();
-        run.dues("row(0, -1, 1) -6", "holds(0) -1", "row(0, 0, 1) 1", "holds(0) 100", "row(0, 1, 1) 1", "holds(0) 101",
-            "row(0, 2, 1) 1", "holds(0) 102", "row(0, 3, 1) 1", "holds(0) 103", "row(0, 4, 1) -6", "holds(0) 103",
-            "row(0, MIN, 1) -6", "row(0, MAX, 1) -6", "holds(0) 103");
+        run.dues("row(0, -1, 1) -6", "holds(0) -1", "row(0, 0, 1) 1", "holds(0) 100", "row(0, 1, 1) 1",
+            "holds(0) 101", "row(0, 2, 1) 1", "holds(0) 102", "row(0, 3, 1) 1", "holds(0) 103", "row(0, 4, 1) -6",
+            "holds(0) 103", "row(0, MIN, 1) -6", "row(0, MAX, 1) -6", "holds(0) 103");
         run.refused(0, 0, 0, 0, 0, 4, 0);
     }
 
@@ -113,7 +115,8 @@ public final class EdgesOfShelvesTest {
 
     /** "what is put in keeps its lowest bits" */
     private static void bytesKeepTheirLowestBits() {
-        kept(0, 127, 127, 128, -128, 255, -1, 256, 0, -128, -128, -129, 127, -256, 0, Long.MAX_VALUE, -1, Long.MIN_VALUE, 0,
+        kept(0, 127, 127, 128, -128, 255, -1, 256, 0, -128, -128, -129, 127, -256, 0, Long.MAX_VALUE, -1,
+            Long.MIN_VALUE, 0,
             0x1FFL, -1, 0x17FL, 127);
     }
 
@@ -131,7 +134,8 @@ public final class EdgesOfShelvesTest {
 
     private static void longsKeepAll() {
         long most = Integer.MAX_VALUE;
-        kept(3, Long.MAX_VALUE, Long.MAX_VALUE, Long.MIN_VALUE, Long.MIN_VALUE, -1, -1, most + 1, most + 1, 1L << 32, 1L << 32);
+        kept(3, Long.MAX_VALUE, Long.MAX_VALUE, Long.MIN_VALUE, Long.MIN_VALUE, -1, -1, most + 1, most + 1, 1L << 32,
+            1L << 32);
     }
 
     private static void kept(int sort, long... pairs) {
@@ -163,10 +167,11 @@ public final class EdgesOfShelvesTest {
         Run run = new Run().numbers(0, 2, 1, 2, 3, 4).numbers(1, 2, 9, 9, 9);
         run.dues("copy(0, 1, 1, 0, 3) 1", "copy(0, 1, 2, 0, 3) -5", "copy(0, 1, 0, 1, 2) 1", "copy(0, 1, 0, 1, 3) -5",
             "copy(0, 1, 0, 0, 3) 1", "copy(0, 1, 0, 0, 4) -5", "copy(1, 0, 0, 1, 3) 1", "copy(1, 0, 0, 2, 3) -5",
-            "copy(0, 1, -1, 0, 1) -5", "copy(0, 1, 0, -1, 1) -5", "copy(0, 1, -1, 0, 0) -5", "copy(0, 1, 0, -1, 0) -5",
-            "copy(0, 1, 0, 0, -1) -4", "copy(0, 1, 0, 0, MIN) -4", "copy(0, 1, 1, 0, MAX) -5", "copy(0, 1, 0, 1, MAX) -5",
-            "copy(0, 1, MAX, 0, 1) -5", "copy(0, 1, 0, MAX, 1) -5", "copy(0, 1, MAX, MAX, MAX) -5",
-            "copy(0, 1, MIN, 0, 1) -5", "copy(0, 1, 0, MIN, 1) -5");
+            "copy(0, 1, -1, 0, 1) -5", "copy(0, 1, 0, -1, 1) -5", "copy(0, 1, -1, 0, 0) -5",
+            "copy(0, 1, 0, -1, 0) -5", "copy(0, 1, 0, 0, -1) -4", "copy(0, 1, 0, 0, MIN) -4",
+            "copy(0, 1, 1, 0, MAX) -5", "copy(0, 1, 0, 1, MAX) -5", "copy(0, 1, MAX, 0, 1) -5",
+            "copy(0, 1, 0, MAX, 1) -5", "copy(0, 1, MAX, MAX, MAX) -5", "copy(0, 1, MIN, 0, 1) -5",
+            "copy(0, 1, 0, MIN, 1) -5");
         run.refused(0, 0, 0, 2, 15, 0, 0);
     }
 
@@ -194,8 +199,9 @@ public final class EdgesOfShelvesTest {
 
     private static void copyOfFullRows() {
         Run run = new Run("row(0, 3, 160)", "row(1, 3, 160)", "set(0, 0, MIN)", "set(0, 159, MAX)", "set(1, 80, 5)");
-        run.dues("copy(0, 1, 0, 0, 161) -5", "copy(0, 1, 0, 1, 160) -5", "copy(0, 1, 1, 0, 160) -5", "element(1, 80) 5",
-            "copy(0, 1, 0, 0, 160) 1", "element(1, 80) 0", "copy(0, 1, 159, 1, 1) 1", "copy(0, 1, 160, 160, 0) 1");
+        run.dues("copy(0, 1, 0, 0, 161) -5", "copy(0, 1, 0, 1, 160) -5", "copy(0, 1, 1, 0, 160) -5",
+            "element(1, 80) 5", "copy(0, 1, 0, 0, 160) 1", "element(1, 80) 0", "copy(0, 1, 159, 1, 1) 1",
+            "copy(0, 1, 160, 160, 0) 1");
         run.due("element(1, 0)", Long.MIN_VALUE);
         run.due("element(1, 159)", Long.MAX_VALUE);
         run.due("element(1, 1)", Long.MAX_VALUE);
@@ -222,8 +228,8 @@ public final class EdgesOfShelvesTest {
             }
         }
         Run run = new Run("stuff(0, 0, 0)", "show(0, 0)", "row(1, 0, 1)");
-        run.dues("copy(0, 0, 0, 0, 0) -2", "copy(0, 1, 0, 0, 0) -2", "copy(1, 0, 0, 0, 0) -2", "copy(0, 2, 0, 0, 0) -2",
-            "copy(2, 0, 0, 0, 0) -2", "copy(2, 3, 0, 0, 0) -3", "copy(2, 2, 0, 0, 0) -3");
+        run.dues("copy(0, 0, 0, 0, 0) -2", "copy(0, 1, 0, 0, 0) -2", "copy(1, 0, 0, 0, 0) -2",
+            "copy(0, 2, 0, 0, 0) -2", "copy(2, 0, 0, 0, 0) -2", "copy(2, 3, 0, 0, 0) -3", "copy(2, 2, 0, 0, 0) -3");
         run.refused(0, 5, 2, 0, 0, 0, 0);
     }
 
@@ -231,7 +237,8 @@ public final class EdgesOfShelvesTest {
     private static void elementOrZero() {
         Run run = new Run("stuff(0, 0, 0)").numbers(0, 3, 7, 8).and("show(1, 0)", "row(2, 0, 0)");
         run.dues("element(0, 0) 7", "element(0, 1) 8", "element(0, 2) 0", "element(0, -1) 0", "element(0, MIN) 0",
-            "element(0, MAX) 0", "element(1, 0) 0", "element(2, 0) 0", "element(3, 0) 0", "element(-1, 0) 0", "element(8, 0) 0");
+            "element(0, MAX) 0", "element(1, 0) 0", "element(2, 0) 0", "element(3, 0) 0", "element(-1, 0) 0",
+            "element(8, 0) 0");
         run.numbers(0, 3, 7, 8).and("row(0, 3, 1)").dues("element(0, 0) 0", "element(0, 1) 0");
         run.numbers(0, 3, 7, 8).and("show(0, 0)").dues("element(0, 0) 0", "element(0, 1) 0");
         run.numbers(0, 3, 7, 8).and("show(0, -1)").dues("element(0, 0) 0", "element(0, 1) 0");
@@ -245,22 +252,27 @@ public final class EdgesOfShelvesTest {
         for (int stuff = 1; stuff < 8; stuff++) {
             run.and("stuff(0, 0, 0)");
         }
-        run.dues("show(0, 7) 1", "holds(0) 7", "show(0, 8) -1", "show(0, -2) -1", "show(0, MIN) -1", "show(0, MAX) -1",
-            "holds(0) 7", "show(0, -1) 0", "holds(0) -1", "show(0, -1) 0", "show(8, -1) -1");
+        run.dues("show(0, 7) 1", "holds(0) 7", "show(0, 8) -1", "show(0, -2) -1", "show(0, MIN) -1",
+            "show(0, MAX) -1", "holds(0) 7", "show(0, -1) 0", "holds(0) -1", "show(0, -1) 0", "show(8, -1) -1");
         run.refused(7, 0, 0, 0, 0, 0, 0);
     }
 
     /** holds: "NONE NOTHING, or no such SHELF; a STUFF's number; 100 and the SORT of a ROW". */
     private static void holdsTellsSorts() {
-        Run run = new Run("stuff(0, 0, 0)", "row(0, 0, 0)", "row(1, 1, 160)", "row(2, 2, 0)", "row(3, 3, 1)", "show(4, 0)");
-        run.dues("holds(0) 100", "holds(1) 101", "holds(2) 102", "holds(3) 103", "holds(4) 0", "holds(5) -1", "holds(-1) -1",
-            "holds(8) -1", "row(4, 3, 0) 1", "holds(4) 103", "show(4, 0) 1", "holds(4) 0");
+        Run run = new Run("stuff(0, 0, 0)", "row(0, 0, 0)", "row(1, 1, 160)", "row(2, 2, 0)", "row(3, 3, 1)",
+            "show(4, 0)");
+        run.dues("holds(0) 100", "holds(1) 101", "holds(2) 102", "holds(3) 103", "holds(4) 0", "holds(5) -1",
+            "holds(-1) -1", "holds(8) -1", "row(4, 3, 0) 1", "holds(4) 103", "show(4, 0) 1", "holds(4) 0");
         run.refused(0, 0, 0, 0, 0, 0, 0);
     }
 
-    /** says: "SEED on how many CELLS it is LAID; MOSS how many CELLS are PLANNED with it": none, all, and only its own. */
+    /**
+     * says: "SEED on how many CELLS it is LAID; MOSS how many CELLS are PLANNED with it": none, all, and only its
+     * own.
+     */
     private static void saysOfNoneAndAll() {
-        Run run = new Run("stuff(1, 0, 0)", "stuff(2, 0, 0)", "stuff(1, 0, 0)", "show(0, 0)", "show(1, 1)", "show(2, 2)");
+        Run run = new Run("stuff(1, 0, 0)", "stuff(2, 0, 0)", "stuff(1, 0, 0)", "show(0, 0)", "show(1, 1)",
+            "show(2, 2)");
         run.dues("says(0, 1) 0", "says(1, 2) 0");
         for (int cell = 23; cell >= 0; cell--) {
             run.and("lay(" + cell + ", 0)", "plan(" + cell + ", 1)");
@@ -271,8 +283,9 @@ public final class EdgesOfShelvesTest {
 
     /** says: "LICHEN, BLUE, FINE its FRESH behind 24 HOURS in the SUN, none in SHADE, 2 SPRAYS; FERN its a". */
     private static void saysFreshness() {
-        // 48 brown: by 10 is 4, by 9 and by 8 are 5 and 6, by 6 and by 5 are 8 and 9
-        int[][] due = {{0, 9, 0, 0}, {4, 9, 0, 0}, {5, 9, 1, 0}, {7, 9, 3, 1}, {8, 9, 4, 2}, {9, 9, 5, 3}};
+        // 48 brown: by 10 is 4, by 9, 8 and 7 are 5, 6 and 6 (one more would be 7), by 6 and 5 are 8 and 9
+        int[][] due = {{0, 9, 0, 0}, {4, 9, 0, 0}, {5, 9, 1, 0}, {6, 9, 3, 1}, {7, 9, 3, 1}, {8, 9, 4, 2}, {9, 9, 5,
+            3}};
         for (int[] one : due) {
             String a = ", 0, " + one[0] + ")";
             Run run = new Run("stuff(3" + a, "stuff(4" + a, "stuff(5" + a, "stuff(6" + a);

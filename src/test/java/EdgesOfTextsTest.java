@@ -134,7 +134,9 @@ public final class EdgesOfTextsTest {
         }
     }
 
-    /** A letter, a blank or a ; left out: what stands in its place can't, or, of two like ones, what stands behind. */
+    /**
+     * A letter, a blank or a ; left out: what stands in its place can't, or, of two like ones, what stands behind.
+     */
     private static void everySignLeftOut() {
         for (int place = 1; place < LONG_TEXT.length(); place++) {
             char sign = LONG_TEXT.charAt(place);
@@ -163,7 +165,9 @@ public final class EdgesOfTextsTest {
         }
     }
 
-    /** "the first element that is not as it is the FAULT, or the number of elements", of words that begin alike, too. */
+    /**
+     * "the first element that is not as it is the FAULT, or the number of elements", of words that begin alike, too.
+     */
     private static void wordsHalfWritten() {
         String[] words = {"stuff", "cell", "plan", "lay", "side", "spray", "hours"};
         for (String word : words) {
@@ -175,48 +179,51 @@ public final class EdgesOfTextsTest {
                 faulty(new Run(), "spray;" + word.substring(0, end) + "z", 6 + end);
             }
         }
-        each(new String[0], new String[] {"x", "sl", "sp", "si", "st", "spl", "sid;", "stu", "stuf", "stufg", "sprai", "sida", "cel1",
-            "plat", "lat", "houra", "pla", "hourse", "sprayy", "layy", "0", ";", " "},
+        each(new String[0], new String[] {"x", "sl", "sp", "si", "st", "spl", "sid;", "stu", "stuf", "stufg", "sprai",
+            "sida", "cel1", "plat", "lat", "houra", "pla", "hourse", "sprayy", "layy", "0", ";", " "},
             0, 1, 2, 2, 2, 2, 3, 3, 4, 4, 4, 3, 3, 3, 2, 4, 3, 5, 5, 3, 0, 0, 0);
     }
 
     /** "One blank between words and NUMBERS". */
     private static void oneBlank() {
         String[] given = {"stuff(0, 0, 0)"};
-        each(given, new String[] {"side1", "side  1", "side 1 ", " side 1", "side 1;side2", "side 1; side 2", "side 1 ;side 2",
-            "cell 1  1", "cell 11", "cell 1;1", "hours\t1", "spray 1", "spray ", "side 1\n"},
+        each(given, new String[] {"side1", "side  1", "side 1 ", " side 1", "side 1;side2", "side 1; side 2",
+            "side 1 ;side 2", "cell 1  1", "cell 11", "cell 1;1", "hours\t1", "spray 1", "spray ", "side 1\n"},
             4, 5, 6, 0, 11, 7, 6, 7, 7, 6, 5, 5, 5, 6);
     }
 
     /** "ITEM, then any number of times ; and ITEM". */
     private static void nothingBehindAnItem() {
-        each(new String[] {"stuff(0, 0, 0)"}, new String[] {"spray;", "spray;;spray", "spray,spray", "sprayspray", "spray;side 1;",
-            ";spray", "side 1side 1", "cell 1 1;", "cell 1 1 1", "plan 1 0 0", "lay 1 0 0", "hours 1 1", "stuff 0 0 0 0"},
+        each(new String[] {"stuff(0, 0, 0)"}, new String[] {"spray;", "spray;;spray", "spray,spray", "sprayspray",
+            "spray;side 1;", ";spray", "side 1side 1", "cell 1 1;", "cell 1 1 1", "plan 1 0 0", "lay 1 0 0",
+            "hours 1 1", "stuff 0 0 0 0"},
             6, 6, 5, 5, 13, 0, 6, 9, 8, 8, 7, 7, 11);
     }
 
     /** "NUMBERS (1 or 2 digits)"; "Numbers of a text may begin with 0." */
     private static void oneOrTwoDigits() {
-        each(new String[] {"stuff(0, 0, 0)"}, new String[] {"side 2", "side 02", "side 002", "side ", "side x", "side -1", "side +1",
-            "cell 01 07", "cell 001 1", "cell 1 007", "cell 00 00", "hours 10", "hours 010", "hours 100", "plan 00 00",
-            "plan 0 000", "lay 00 00", "lay 000 0", "stuff 00 00 00", "stuff 000 0 0", "stuff 0 000 0", "stuff 0 0 000",
-            "side 1/", "side 1:", "side /", "side :", "side 0/", "cell 1: 0"},
+        each(new String[] {"stuff(0, 0, 0)"}, new String[] {"side 2", "side 02", "side 002", "side ", "side x",
+            "side -1", "side +1", "cell 01 07", "cell 001 1", "cell 1 007", "cell 00 00", "hours 10", "hours 010",
+            "hours 100", "plan 00 00", "plan 0 000", "lay 00 00", "lay 000 0", "stuff 00 00 00", "stuff 000 0 0",
+            "stuff 0 000 0", "stuff 0 0 000", "side 1/", "side 1:", "side /", "side :", "side 0/", "cell 1: 0"},
             -1, -1, 7, 5, 5, 5, 5, -1, 7, 9, -1, -1, 8, 8, -1, 9, -1, 6, -1, 8, 10, 12, 6, 6, 5, 5, 6, 6);
     }
 
     /** "of a NUMBER that may not be the place of its first digit"; "stuff K C A (KIND, COLOUR, a)". */
     private static void numbersOfStuff() {
-        each(new String[0], new String[] {"stuff 0 0 0", "stuff 6 0 0", "stuff 06 0 0", "stuff 7 0 0", "stuff 07 0 0", "stuff 10 0 0",
-            "stuff 60 0 0", "stuff 99 0 0", "stuff 0 7 0", "stuff 0 07 0", "stuff 0 8 0", "stuff 0 08 0", "stuff 00 8 0",
-            "stuff 0 10 0", "stuff 0 70 0", "stuff 0 0 9", "stuff 0 0 09", "stuff 0 0 10", "stuff 0 0 90", "stuff 00 00 10",
-            "stuff 7", "stuff 7 8 10", "stuff 0 8", "stuff 0 8 10", "stuff 0 0 99;"},
+        each(new String[0], new String[] {"stuff 0 0 0", "stuff 6 0 0", "stuff 06 0 0", "stuff 7 0 0", "stuff 07 0 0",
+            "stuff 10 0 0", "stuff 60 0 0", "stuff 99 0 0", "stuff 0 7 0", "stuff 0 07 0", "stuff 0 8 0",
+            "stuff 0 08 0", "stuff 00 8 0", "stuff 0 10 0", "stuff 0 70 0", "stuff 0 0 9", "stuff 0 0 09",
+            "stuff 0 0 10", "stuff 0 0 90", "stuff 00 00 10", "stuff 7", "stuff 7 8 10", "stuff 0 8", "stuff 0 8 10",
+            "stuff 0 0 99;"},
             -1, -1, -1, 6, 6, 6, 6, 6, -1, -1, 8, 8, 9, 8, 8, -1, -1, 10, 10, 12, 6, 6, 8, 8, 10);
     }
 
     /** "cell X C (a CELL's COLOUR)". */
     private static void numbersOfCell() {
-        each(new String[0], new String[] {"cell 0 0", "cell 23 7", "cell 24 0", "cell 30 0", "cell 99 9", "cell 0 7", "cell 0 07",
-            "cell 0 8", "cell 0 08", "cell 0 10", "cell 23 8", "cell 24", "cell 240 0", "cell 230 0", "cell 0 -1"},
+        each(new String[0], new String[] {"cell 0 0", "cell 23 7", "cell 24 0", "cell 30 0", "cell 99 9", "cell 0 7",
+            "cell 0 07", "cell 0 8", "cell 0 08", "cell 0 10", "cell 23 8", "cell 24", "cell 240 0", "cell 230 0",
+            "cell 0 -1"},
             -1, -1, 5, 5, 5, -1, -1, 7, 7, 7, 8, 5, 5, 7, 7);
     }
 
@@ -226,9 +233,11 @@ public final class EdgesOfTextsTest {
         for (int i = 0; i < 8; i++) {
             eight[i] = "stuff(0, 0, 0)";
         }
-        each(eight, new String[] {"plan 0 0", "plan 23 7", "plan 23 07", "plan 0 8", "plan 0 08", "plan 0 10", "plan 24 0", "plan 24 8"},
+        each(eight, new String[] {"plan 0 0", "plan 23 7", "plan 23 07", "plan 0 8", "plan 0 08", "plan 0 10",
+            "plan 24 0", "plan 24 8"},
             -1, -1, -1, 7, 7, 7, 5, 5);
-        each(new String[] {"stuff(0, 0, 0)"}, new String[] {"plan 0 0", "plan 0 1", "plan 0 00", "plan 0 01"}, -1, 7, -1, 7);
+        each(new String[] {"stuff(0, 0, 0)"}, new String[] {"plan 0 0", "plan 0 1", "plan 0 00", "plan 0 01"}, -1, 7,
+            -1, 7);
         each(new String[0], new String[] {"plan 0 0", "plan 0 ", "plan 0", "plan 23 00"}, 7, 7, 6, 8);
     }
 
@@ -238,20 +247,23 @@ public final class EdgesOfTextsTest {
         for (int i = 0; i < 8; i++) {
             eight[i] = "stuff(0, 0, 0)";
         }
-        each(eight, new String[] {"lay 0 0", "lay 23 7", "lay 23 07", "lay 0 8", "lay 0 08", "lay 0 10", "lay 24 0", "lay 24 8", "lay 99"},
+        each(eight, new String[] {"lay 0 0", "lay 23 7", "lay 23 07", "lay 0 8", "lay 0 08", "lay 0 10", "lay 24 0",
+            "lay 24 8", "lay 99"},
             -1, -1, -1, 6, 6, 6, 4, 4, 4);
         each(new String[0], new String[] {"lay 0 0", "lay 0 ", "lay 0", "lay 23 00"}, 6, 6, 5, 7);
     }
 
     /** "side N". */
     private static void numbersOfSide() {
-        each(new String[0], new String[] {"side 0", "side 1", "side 2", "side 02", "side 3", "side 03", "side 10", "side 20", "side 3;"},
+        each(new String[0], new String[] {"side 0", "side 1", "side 2", "side 02", "side 3", "side 03", "side 10",
+            "side 20", "side 3;"},
             -1, -1, -1, -1, 5, 5, 5, 5, 5);
     }
 
     /** "hours N (1 to 99, in truth)". */
     private static void numbersOfHours() {
-        each(new String[0], new String[] {"hours 0", "hours 00", "hours 0;spray", "hours 1", "hours 01", "hours 99", "hours 100", "hours 000"},
+        each(new String[0], new String[] {"hours 0", "hours 00", "hours 0;spray", "hours 1", "hours 01", "hours 99",
+            "hours 100", "hours 000"},
             6, 6, 6, -1, -1, -1, 8, 6);
         telling(new Run(), "hours 99", 1).dues("status(4) 99", "status(5) 40", "status(2) 0");
         telling(new Run(), "hours 01", 1).dues("status(4) 1", "status(5) 0", "status(2) 59");
@@ -259,10 +271,11 @@ public final class EdgesOfTextsTest {
 
     /** "All is told over what there is": stuffs that stand ahead in the text, too. */
     private static void stuffsThatAreToldAhead() {
-        each(new String[0], new String[] {"stuff 0 0 0;plan 0 0", "stuff 0 0 0;plan 0 1", "plan 0 0;stuff 0 0 0", "stuff 0 0 0;lay 0 0",
-            "lay 0 0;stuff 0 0 0", "stuff 0 0 0;lay 0 1"},
+        each(new String[0], new String[] {"stuff 0 0 0;plan 0 0", "stuff 0 0 0;plan 0 1", "plan 0 0;stuff 0 0 0",
+            "stuff 0 0 0;lay 0 0", "lay 0 0;stuff 0 0 0", "stuff 0 0 0;lay 0 1"},
             -2, 19, 7, -2, 6, 18);
-        each(new String[] {"stuff(0, 0, 0)"}, new String[] {"stuff 0 0 0;plan 0 1;lay 0 1", "plan 0 1;stuff 0 0 0"}, -3, 7);
+        each(new String[] {"stuff(0, 0, 0)"}, new String[] {"stuff 0 0 0;plan 0 1;lay 0 1", "plan 0 1;stuff 0 0 0"},
+            -3, 7);
     }
 
     private static Run withStuffs(int n) {
@@ -313,38 +326,45 @@ public final class EdgesOfTextsTest {
     /** "lay X S (in truth, if it may be)"; "(.. a lay that may not be: X)". */
     private static void layingsThatMayNotBe() {
         String[] given = {"stuff(0, 0, 0)", "cell(20, 0)", "lay(23, 0)"};
-        each(given, new String[] {"lay 16 0", "lay 16 00", "lay 16", "lay 16 1", "lay 16x", "lay 23 0", "lay 20 1", "lay 20 0",
-            "lay 19 0", "lay 12 0", "spray;lay 23 0", "lay 20", "lay 20 "},
+        each(given, new String[] {"lay 16 0", "lay 16 00", "lay 16", "lay 16 1", "lay 16x", "lay 23 0", "lay 20 1",
+            "lay 20 0", "lay 19 0", "lay 12 0", "spray;lay 23 0", "lay 20", "lay 20 "},
             4, 4, 4, 4, 4, 4, 7, -1, -1, -1, 10, 6, 7);
         // the digit 2 could stand alone here, but 24 is no cell; 2 may not be laid any more, 20 may
-        each(new String[] {"stuff(0, 0, 0)", "lay(2, 0)"}, new String[] {"lay 24 0", "lay 2 0", "lay 02 0", "lay 20 0"}, 4, 4, 4, -1);
+        each(new String[] {"stuff(0, 0, 0)", "lay(2, 0)"}, new String[] {"lay 24 0", "lay 2 0", "lay 02 0",
+            "lay 20 0"}, 4, 4, 4, -1);
     }
 
     /** "MAY be LAID", over what the text has told ahead. */
     private static void layingsOverWhatIsTold() {
         String[] given = {"stuff(0, 0, 0)"};
-        each(given, new String[] {"lay 20 0;lay 20 0", "cell 20 0;lay 16 0", "cell 20 0;lay 20 0;lay 16 0", "lay 16 0;cell 20 0",
-            "cell 20 0;cell 20 1;lay 16 0", "cell 23 0;lay 19 0", "cell 22 0;lay 19 0"},
+        each(given, new String[] {"lay 20 0;lay 20 0", "cell 20 0;lay 16 0", "cell 20 0;lay 20 0;lay 16 0",
+            "lay 16 0;cell 20 0", "cell 20 0;cell 20 1;lay 16 0", "cell 23 0;lay 19 0", "cell 22 0;lay 19 0"},
             13, 14, -3, -2, 24, 14, -2);
     }
 
     /** "lay .. (in truth ..); spray (in truth); hours N (.. in truth)": each at its place in the text. */
     private static void toldInTruth() {
-        Run run = telling(new Run(), "stuff 0 0 0;spray;lay 20 0;hours 2;spray;side 1;hours 3;lay 21 0;spray;hours 1;side 2;lay 22 0", 12);
-        run.dues("cellOf(20, 3) 4", "cellOf(20, 4) 2", "cellOf(20, 5) 2", "cellOf(21, 3) 1", "cellOf(21, 4) 0", "cellOf(21, 5) 1",
-            "cellOf(22, 3) 0", "cellOf(22, 4) 0", "cellOf(22, 5) 0", "status(2) 80", "status(3) 2", "status(4) 6", "status(5) 0");
+        Run run = telling(new Run(),
+            "stuff 0 0 0;spray;lay 20 0;hours 2;spray;side 1;hours 3;lay 21 0;spray;hours 1;side 2;lay 22 0", 12);
+        run.dues("cellOf(20, 3) 4", "cellOf(20, 4) 2", "cellOf(20, 5) 2", "cellOf(21, 3) 1", "cellOf(21, 4) 0",
+            "cellOf(21, 5) 1", "cellOf(22, 3) 0", "cellOf(22, 4) 0", "cellOf(22, 5) 0", "status(2) 80", "status(3) 2",
+            "status(4) 6", "status(5) 0");
     }
 
     private static void toldOverWhatThereIs() {
-        Run run = new Run("stuff(4, 5, 6)", "cell(1, 1)", "cell(2, 2)", "plan(1, 0)", "lay(1, 0)", "hours(1)", "side(2)", "spray()");
-        telling(run, "cell 2 3;hours 2;stuff 1 1 1;plan 2 1", 4);
-        run.dues("status(0) 2", "stuffOf(0, 0) 4", "stuffOf(1, 0) 1", "cellOf(1, 0) 1", "cellOf(2, 0) 3", "cellOf(1, 2) 0",
-            "cellOf(2, 2) 1", "cellOf(1, 1) 0", "cellOf(1, 4) 3", "cellOf(1, 5) 1", "status(3) 2", "status(4) 3", "status(2) 65");
+        Run run = new Run("stuff(4, 5, 6)", "cell(1, 1)", "cell(2, 2)", "plan(1, 0)", "lay(1, 0)", "hours(1)",
+            "side(2)", "spray()");
+        telling(run, "cell 2 3;hours 2;stuff 1 2 3;plan 2 1", 4);
+        run.dues("status(0) 2", "stuffOf(0, 0) 4", "stuffOf(0, 1) 5", "stuffOf(0, 2) 6", "stuffOf(1, 0) 1",
+            "stuffOf(1, 1) 2", "stuffOf(1, 2) 3", "cellOf(1, 0) 1", "cellOf(2, 0) 3", "cellOf(1, 2) 0",
+            "cellOf(2, 2) 1", "cellOf(1, 1) 0", "cellOf(1, 4) 3", "cellOf(1, 5) 1", "status(3) 2", "status(4) 3",
+            "status(2) 65");
     }
 
     /** "or nothing": behind each kind of item there is a fault, and nothing of it is told. */
     private static void allOrNothing() {
-        String[] given = {"stuff(0, 0, 0)", "cell(1, 1)", "plan(1, 0)", "lay(1, 0)", "hours(1)", "side(2)", "spray()", "seed(7)", "image()"};
+        String[] given = {"stuff(0, 0, 0)", "cell(1, 1)", "plan(1, 0)", "lay(1, 0)", "hours(1)", "side(2)", "spray()",
+            "seed(7)", "image()"};
         String before = new Run(given).and("row(5, 0, 1)", "show(5, -1)").all();
         String[] items = {"stuff 1 1 1", "cell 1 2", "plan 1 0;plan 2 0", "lay 2 0", "side 1", "spray", "hours 9"};
         for (String item : items) {
@@ -400,8 +420,9 @@ public final class EdgesOfTextsTest {
         Run run = new Run("stuff(0, 0, 0)", "show(1, 0)", "image()");
         run.dues("fault() -1", "village(0) -3", "fault() -1", "village(1) -2", "village(8) -1", "fault() -1");
         faulty(run, "spray;x", 6);
-        run.dues("village(0) -3", "fault() 6", "village(1) -2", "fault() 6", "village(-1) -1", "village(8) -1", "fault() 6",
-            "restore() 1", "fault() 6", "image() 1", "fault() 6", "row(5, 0, 0) 1", "fault() 6", "village(5) -6", "fault() 0");
+        run.dues("village(0) -3", "fault() 6", "village(1) -2", "fault() 6", "village(-1) -1", "village(8) -1",
+            "fault() 6", "restore() 1", "fault() 6", "image() 1", "fault() 6", "row(5, 0, 0) 1", "fault() 6",
+            "village(5) -6", "fault() 0");
         telling(run, "spray", 1);
         run.dues("village(0) -3", "fault() -1");
         faulty(run, "y", 0);

@@ -1,4 +1,6 @@
-/** Promises 16 to 21, 39 and 40, a sentence of the document ahead of each test: the edges of what happens in truth. */
+/**
+ * Promises 16 to 21, 39 and 40, a sentence of the document ahead of each test: the edges of what happens in truth.
+ */
 public final class EdgesOfTruthTest {
     public static void main(String[] args) {
         mayOverWhatIsBelow();
@@ -96,9 +98,9 @@ public final class EdgesOfTruthTest {
     /** A cell that is laid has lain for no hours, and had no sprays, whatever was ahead. */
     private static void layBegins() {
         Run run = new Run("stuff(0, 0, 0)", "hours(5)", "spray()", "lay(0, 0)");
-        run.dues("cellOf(0, 3) 0", "cellOf(0, 4) 0", "cellOf(0, 5) 0", "side(1) 0", "hours(1) 6", "side(2) 1", "hours(2) 8", "spray() 69",
-            "cellOf(0, 3) 1", "cellOf(0, 4) 2", "cellOf(0, 5) 1", "strip(0) 0", "lay(0, 0) 1", "cellOf(0, 3) 0", "cellOf(0, 4) 0",
-            "cellOf(0, 5) 0");
+        run.dues("cellOf(0, 3) 0", "cellOf(0, 4) 0", "cellOf(0, 5) 0", "side(1) 0", "hours(1) 6", "side(2) 1",
+            "hours(2) 8", "spray() 69", "cellOf(0, 3) 1", "cellOf(0, 4) 2", "cellOf(0, 5) 1", "strip(0) 0",
+            "lay(0, 0) 1", "cellOf(0, 3) 0", "cellOf(0, 4) 0", "cellOf(0, 5) 0");
     }
 
     /** strip: "A CELL is BARE in truth: the STUFF that was there. -1; -6 it is BARE." */
@@ -114,16 +116,18 @@ public final class EdgesOfTruthTest {
 
     /** strip: "(What lies above stays.)" */
     private static void stripLeavesWhatLiesAbove() {
-        Run run = new Run("stuff(0, 2, 0)", "cell(20, 2)", "cell(16, 2)", "lay(20, 0)", "lay(16, 0)", "lay(12, 0)", "hours(3)", "strip(20)");
-        run.dues("status(1) 2", "cellOf(16, 1) 0", "cellOf(16, 4) 3", "cellOf(12, 1) 0", "fresh(16, 0) 6", "may(20) 1", "strip(16) 0",
-            "may(16) 0", "cellOf(12, 1) 0", "cellOf(20, 0) 2");
+        Run run = new Run("stuff(0, 2, 0)", "cell(20, 2)", "cell(16, 2)", "lay(20, 0)", "lay(16, 0)", "lay(12, 0)",
+            "hours(3)", "strip(20)");
+        run.dues("status(1) 2", "cellOf(16, 1) 0", "cellOf(16, 4) 3", "cellOf(12, 1) 0", "fresh(16, 0) 6",
+            "may(20) 1", "strip(16) 0", "may(16) 0", "cellOf(12, 1) 0", "cellOf(20, 0) 2");
     }
 
     /** "A SPRAY: WET is 10 more (99 at most)". */
     private static void sprayIs99AtMost() {
         Run run = new Run();
-        run.dues("spray() 70", "spray() 80", "spray() 90", "spray() 99", "spray() 99", "status(2) 99", "hours(10) 10", "status(2) 89",
-            "spray() 99", "hours(11) 21", "status(2) 88", "spray() 98", "hours(1) 22", "spray() 99", "hours(9) 31", "spray() 99");
+        run.dues("spray() 70", "spray() 80", "spray() 90", "spray() 99", "spray() 99", "status(2) 99", "hours(10) 10",
+            "status(2) 89", "spray() 99", "hours(11) 21", "status(2) 88", "spray() 98", "hours(1) 22", "spray() 99",
+            "hours(9) 31", "spray() 99");
         Run dry = new Run("hours(100)");
         dry.dues("status(2) 0", "spray() 10", "spray() 20");
     }
@@ -131,7 +135,8 @@ public final class EdgesOfTruthTest {
     /** "each LAID CELL has one more". */
     private static void sprayOnLaidCells() {
         Run run = new Run("stuff(0, 0, 0)", "lay(0, 0)", "spray()", "lay(23, 0)", "spray()", "strip(0)", "spray()");
-        run.dues("cellOf(0, 5) 0", "cellOf(23, 5) 2", "cellOf(1, 5) 0", "lay(0, 0) 2", "spray() 99", "cellOf(0, 5) 1", "cellOf(23, 5) 3");
+        run.dues("cellOf(0, 5) 0", "cellOf(23, 5) 2", "cellOf(1, 5) 0", "lay(0, 0) 2", "spray() 99", "cellOf(0, 5) 1",
+            "cellOf(23, 5) 3");
         Run full = full("spray()");
         for (int cell = 0; cell < 24; cell++) {
             full.due("cellOf(" + cell + ", 5)", 1);
@@ -141,8 +146,9 @@ public final class EdgesOfTruthTest {
     /** "SIDE: .. 0 none (at first), 1 .., 2 .."; side: "what it was. -6." */
     private static void sidesAre0To2() {
         Run run = new Run();
-        run.dues("status(3) 0", "side(-1) -6", "side(3) -6", "side(MIN) -6", "side(MAX) -6", "status(3) 0", "side(2) 0", "status(3) 2",
-            "side(3) -6", "status(3) 2", "side(1) 2", "side(0) 1", "side(0) 0", "status(3) 0");
+        run.dues("status(3) 0", "side(-1) -6", "side(3) -6", "side(MIN) -6", "side(MAX) -6", "status(3) 0",
+            "side(2) 0", "status(3) 2", "side(3) -6", "status(3) 2", "side(1) 2", "side(0) 1", "side(0) 0",
+            "status(3) 0");
         run.refused(0, 0, 0, 0, 0, 5, 0);
     }
 
@@ -161,8 +167,8 @@ public final class EdgesOfTruthTest {
     /** hours: "n HOURS (1 to 240) in truth: HOUR. -6." */
     private static void hoursAre1To240() {
         Run run = new Run("stuff(0, 0, 0)", "lay(3, 0)");
-        run.dues("hours(0) -6", "hours(-1) -6", "hours(241) -6", "hours(MIN) -6", "hours(MAX) -6", "status(4) 0", "status(2) 60",
-            "cellOf(3, 4) 0", "hours(1) 1", "hours(240) 241", "cellOf(3, 4) 241", "status(4) 241");
+        run.dues("hours(0) -6", "hours(-1) -6", "hours(241) -6", "hours(MIN) -6", "hours(MAX) -6", "status(4) 0",
+            "status(2) 60", "cellOf(3, 4) 0", "hours(1) 1", "hours(240) 241", "cellOf(3, 4) 241", "status(4) 241");
         run.refused(0, 0, 0, 0, 0, 5, 0);
     }
 
@@ -174,17 +180,19 @@ public final class EdgesOfTruthTest {
         new Run("hours(240)").due("status(2)", 0);
         for (int side = 1; side < 3; side++) {
             new Run("side(" + side + ")", "hours(1)").due("status(2)", 58);
-            new Run("side(" + side + ")", "hours(29)").dues("status(2) 2", "hours(1) 30", "status(2) 0", "hours(1) 31", "status(2) 0");
+            new Run("side(" + side + ")", "hours(29)").dues("status(2) 2", "hours(1) 30", "status(2) 0",
+                "hours(1) 31", "status(2) 0");
         }
     }
 
     /** "if it is 0 then, CRACKS are 1 more": not behind the hour that leaves 1, but behind the one that leaves 0. */
     private static void cracksWhenWetIs0Then() {
-        new Run("hours(59)").dues("status(5) 0", "hours(1) 60", "status(5) 1", "hours(1) 61", "status(5) 2", "spray() 10", "hours(9) 70",
-            "status(5) 2", "hours(1) 71", "status(5) 3");
+        new Run("hours(59)").dues("status(5) 0", "hours(1) 60", "status(5) 1", "hours(1) 61", "status(5) 2",
+            "spray() 10", "hours(9) 70", "status(5) 2", "hours(1) 71", "status(5) 3");
         new Run("hours(240)").due("status(5)", 181);
         for (int side = 1; side < 3; side++) {
-            new Run("side(" + side + ")", "hours(29)").dues("status(5) 0", "hours(1) 30", "status(5) 1", "hours(240) 270", "status(5) 241");
+            new Run("side(" + side + ")", "hours(29)").dues("status(5) 0", "hours(1) 30", "status(5) 1",
+                "hours(240) 270", "status(5) 241");
             new Run("side(" + side + ")", "hours(240)").due("status(5)", 211);
         }
     }
@@ -192,8 +200,10 @@ public final class EdgesOfTruthTest {
     /** 1 less 2 is 0, too. */
     private static void wetOfOddNumbers() {
         Run run = new Run("hours(57)", "side(1)");
-        run.dues("status(2) 3", "hours(1) 58", "status(2) 1", "status(5) 0", "hours(1) 59", "status(2) 0", "status(5) 1");
-        run.dues("spray() 10", "side(0) 1", "hours(9) 68", "side(2) 0", "status(2) 1", "hours(2) 70", "status(2) 0", "status(5) 3");
+        run.dues("status(2) 3", "hours(1) 58", "status(2) 1", "status(5) 0", "hours(1) 59", "status(2) 0",
+            "status(5) 1");
+        run.dues("spray() 10", "side(0) 1", "hours(9) 68", "side(2) 0", "status(2) 1", "hours(2) 70", "status(2) 0",
+            "status(5) 3");
     }
 
     private static void hoursAddUp() {
@@ -201,14 +211,15 @@ public final class EdgesOfTruthTest {
         for (int i = 1; i <= 400; i++) {
             run.due("hours(240)", 240 * i);
         }
-        run.dues("cellOf(0, 3) 96000", "cellOf(0, 4) 0", "status(5) 95971", "fresh(0, 240) 9", "looks(240) 9", "all(0, 240) 2169");
+        run.dues("cellOf(0, 3) 96000", "cellOf(0, 4) 0", "status(5) 95971", "fresh(0, 240) 9", "looks(240) 9",
+            "all(0, 240) 2169");
     }
 
     /** seed: "SEED becomes v: what it was (nothing is refused)." */
     private static void seedIsAnyInt() {
         Run run = new Run();
-        run.dues("seed(MIN) 1", "status(6) -2147483648", "seed(MAX) -2147483648", "status(6) 2147483647", "seed(0) 2147483647",
-            "seed(-1) 0", "seed(1) -1", "status(6) 1");
+        run.dues("seed(MIN) 1", "status(6) -2147483648", "seed(MAX) -2147483648", "status(6) 2147483647",
+            "seed(0) 2147483647", "seed(-1) 0", "seed(1) -1", "status(6) 1");
         run.refused(0, 0, 0, 0, 0, 0, 0);
     }
 
@@ -259,7 +270,8 @@ public final class EdgesOfTruthTest {
     /** days: "n DAYS (1 to 20) by draws in truth .. -6." */
     private static void daysAre1To20() {
         Run run = new Run();
-        run.dues("days(0) -6", "days(-1) -6", "days(21) -6", "days(MIN) -6", "days(MAX) -6", "status(4) 0", "status(6) 1", "status(3) 0");
+        run.dues("days(0) -6", "days(-1) -6", "days(21) -6", "days(MIN) -6", "days(MAX) -6", "status(4) 0",
+            "status(6) 1", "status(3) 0");
         run.refused(0, 0, 0, 0, 0, 5, 0);
         run.and("days(1)").due("status(4)", 24);
         run.and("days(20)").due("status(4)", 504);
@@ -270,7 +282,10 @@ public final class EdgesOfTruthTest {
         run.due("status(6)", (int) seed);
     }
 
-    /** "SIDE a DRAW below 3; 24 HOURS; .. then a beetle: a CELL, a DRAW below 24, is BARE": the first and the last of each. */
+    /**
+     * "SIDE a DRAW below 3; 24 HOURS; .. then a beetle: a CELL, a DRAW below 24, is BARE": the first and the last of
+     * each.
+     */
     private static void sideAndBeetleOfADay() {
         int[] cells = {0, 1, 22, 23};
         for (int side = 0; side < 3; side++) {

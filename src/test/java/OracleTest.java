@@ -1,9 +1,5 @@
-import java.lang.reflect.Method;
-import java.lang.reflect.Modifier;
 import java.util.ArrayList;
-import java.util.HashMap;
 import java.util.List;
-import java.util.Map;
 import java.util.Random;
 
 /**
@@ -40,9 +36,6 @@ public final class OracleTest {
         "trace 1 0:9", "fault 1", "looks 1 0:9", "wrong 1", "lacking 1", "next 1",
     };
 
-    private static final Map<String, Method> METHODS_OF_PROGRAM = new HashMap<>();
-    private static final Map<String, Method> METHODS_OF_MODEL = new HashMap<>();
-
     private static Random random;
     private static PetalPictures program;
     private static Model model;
@@ -50,7 +43,7 @@ public final class OracleTest {
     private static final List<String> log = new ArrayList<>();
     private static boolean alike;
 
-    public static void main(String[] args) throws Exception {
+    public static void main(String[] args) {
         List<String> bag = new ArrayList<>();
         for (String told : CALLS_TOLD) {
             for (int i = Integer.parseInt(told.split(" ")[1]); i > 0; i--) {
@@ -63,7 +56,7 @@ public final class OracleTest {
         Check.end();
     }
 
-    private static void oneRun(int run, List<String> bag) throws Exception {
+    private static void oneRun(int run, List<String> bag) {
         random = new Random(run);
         program = new PetalPictures();
         model = new Model();
@@ -92,7 +85,7 @@ public final class OracleTest {
         }
     }
 
-    private static void oneStep(List<String> bag) throws Exception {
+    private static void oneStep(List<String> bag) {
         int choice = random.nextInt(200);
         if (choice < 4) {
             tellVillage();
@@ -107,7 +100,7 @@ public final class OracleTest {
         }
     }
 
-    private static void callAsTold(String told) throws Exception {
+    private static void callAsTold(String told) {
         String[] parts = told.split(" ");
         long[] args = new long[parts.length - 2];
         for (int i = 0; i < args.length; i++) {
@@ -135,49 +128,18 @@ public final class OracleTest {
         return least + (long) (random.nextDouble() * (most - least + 1));
     }
 
-    private static long call(String name, long... args) throws Exception {
+    private static long call(String name, long... args) {
         calls++;
-        long got = answer(program, name, args);
-        long want = answer(model, name, args);
-        StringBuilder text = new StringBuilder(name).append('(');
-        for (int i = 0; i < args.length; i++) {
-            text.append(i == 0 ? "" : ", ").append(args[i]);
-        }
+        long got = Calls.answer(program, name, args);
+        long want = Calls.answer(model, name, args);
         if (alike) {
-            log.add(text.append(") ").append(got).toString());
+            log.add(Calls.told(name, args) + " " + got);
         }
         if (got != want && alike) {
             log.add("(due: " + want + ")");
             alike = false;
         }
         return got;
-    }
-
-    private static long answer(Object of, String name, long[] args) throws Exception {
-        Method method = methodOf(of, name);
-        Object[] given = new Object[args.length];
-        for (int i = 0; i < args.length; i++) {
-            boolean isLong = name.equals("set") && i == 2;
-            given[i] = isLong ? (Object) Long.valueOf(args[i]) : (Object) Integer.valueOf((int) args[i]);
-        }
-        return ((Number) method.invoke(of, given)).longValue();
-    }
-
-    /** The public method of a name (none has two), looked up once. */
-    private static Method methodOf(Object of, String name) {
-        Map<String, Method> known = of == program ? METHODS_OF_PROGRAM : METHODS_OF_MODEL;
-        Method method = known.get(name);
-        if (method != null) {
-            return method;
-        }
-        for (Method one : of.getClass().getDeclaredMethods()) {
-            if (one.getName().equals(name) && Modifier.isPublic(one.getModifiers())) {
-                one.setAccessible(true);
-                known.put(name, one);
-                return one;
-            }
-        }
-        throw new IllegalStateException("no method " + name);
     }
 
     private static String item() {
@@ -194,7 +156,7 @@ public final class OracleTest {
         }
     }
 
-    private static void tellVillage() throws Exception {
+    private static void tellVillage() {
         StringBuilder text = new StringBuilder(item());
         for (int i = random.nextInt(4); i > 0; i--) {
             text.append(';').append(item());
@@ -224,7 +186,7 @@ public final class OracleTest {
         call("fault");
     }
 
-    private static void tellFreshness() throws Exception {
+    private static void tellFreshness() {
         int s = random.nextInt(8);
         int n = model.status(1);
         int hour = random.nextInt(random.nextBoolean() ? 241 : 20);
@@ -239,7 +201,7 @@ public final class OracleTest {
         call("age", s, n);
     }
 
-    private static void tellLayings() throws Exception {
+    private static void tellLayings() {
         int s = random.nextInt(8);
         int n = random.nextInt(9);
         call("row", s, 1 + random.nextInt(3), n);
@@ -254,7 +216,7 @@ public final class OracleTest {
     }
 
     /** All that can be asked without changing anything. */
-    private static void compareAll() throws Exception {
+    private static void compareAll() {
         for (int what = -1; what < 19; what++) {
             call("status", what);
         }

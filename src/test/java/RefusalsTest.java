@@ -47,7 +47,8 @@ public final class RefusalsTest {
         "stuff(0, 0, MIN) -6", "stuff(0, 0, MAX) -6",
         "stuffOf(-1, 0) -5", "stuffOf(6, 0) -5", "stuffOf(0, -1) -5", "stuffOf(0, 3) -5", "stuffOf(6, 3) -5",
         "stuffOf(MIN, 0) -5", "stuffOf(MAX, 0) -5", "stuffOf(0, MIN) -5", "stuffOf(0, MAX) -5",
-        "cell(-1, 0) -1", "cell(24, 0) -1", "cell(MIN, 0) -1", "cell(MAX, -1) -1", "cell(20, -2) -6", "cell(20, 8) -6",
+        "cell(-1, 0) -1", "cell(24, 0) -1", "cell(MIN, 0) -1", "cell(MAX, -1) -1", "cell(20, -2) -6",
+        "cell(20, 8) -6",
         "cell(20, MIN) -6", "cell(20, MAX) -6",
         "cellOf(-1, 0) -15", "cellOf(24, 0) -15", "cellOf(20, -1) -15", "cellOf(20, 6) -15", "cellOf(24, 6) -15",
         "cellOf(MIN, 0) -15", "cellOf(MAX, 0) -15", "cellOf(20, MIN) -15", "cellOf(20, MAX) -15",
@@ -217,7 +218,8 @@ public final class RefusalsTest {
         unchanged("what refuses nothing", run, before);
         Run wild = new Run("stuff(0, 0, 0)");
         for (String told : new String[] {"seed(MIN)", "seed(MAX)", "seed(0)", "act(-1, 0, 0)", "act(1, 0, 0)",
-            "act(0, 3, 0)", "act(0, -1, 0)", "act(0, 2, MIN)", "act(MAX, MIN, MAX)", "spray()", "image()", "restore()"}) {
+            "act(0, 3, 0)", "act(0, -1, 0)", "act(0, 2, MIN)", "act(MAX, MIN, MAX)", "spray()", "image()",
+            "restore()"}) {
             wild.call(told);
         }
         wild.refused(0, 0, 0, 0, 0, 0, 0);
@@ -252,7 +254,8 @@ public final class RefusalsTest {
 
     /** village: -6 a FAULT: the FAULT is told, but all else is as it was. */
     private static void aFaultShowsButChangesNothing() {
-        String[] texts = {"stuff 0 0 0;", "cell 0 0;cell 1 1;x", "plan 23 5;plan 24 0", "lay 23 0;lay 23 0", "side 1;side 3",
+        String[] texts = {"stuff 0 0 0;", "cell 0 0;cell 1 1;x", "plan 23 5;plan 24 0", "lay 23 0;lay 23 0",
+            "side 1;side 3",
             "spray;spray;spra", "hours 99;hours 0", ""};
         int[] faults = {12, 18, 15, 13, 12, 16, 15, 0};
         for (int i = 0; i < texts.length; i++) {

@@ -1,14 +1,9 @@
-import java.lang.reflect.Method;
-import java.util.HashMap;
-import java.util.Map;
-
 /**
  * A new object and the calls made on it, told as texts like "row(0, 2, 160)" (MIN and MAX stand for the least and
  * the most that the argument's type holds). The document promises the first 512 calls of an object: no more are made.
  */
 final class Run {
     private static final int MOST_CALLS = 512;
-    private static final Map<String, Method> METHODS = methods();
 
     private final PetalPictures object = new PetalPictures();
     private final StringBuilder made = new StringBuilder();
@@ -17,16 +12,6 @@ final class Run {
     /** The first calls, none of which may be refused. */
     Run(String... given) {
         and(given);
-    }
-
-    private static Map<String, Method> methods() {
-        Map<String, Method> methods = new HashMap<>();
-        for (Method one : PetalPictures.class.getMethods()) {
-            if (one.getDeclaringClass() == PetalPictures.class) {
-                methods.put(one.getName(), one);
-            }
-        }
-        return methods;
     }
 
     /** Further calls, none of which may be refused. */
@@ -58,25 +43,20 @@ final class Run {
 
     long call(String told) {
         int open = told.indexOf('(');
-        Method method = METHODS.get(told.substring(0, open));
+        String name = told.substring(0, open);
         String inside = told.substring(open + 1, told.lastIndexOf(')'));
-        String[] args = inside.isEmpty() ? new String[0] : inside.split(", ");
-        Class<?>[] types = method.getParameterTypes();
-        Object[] given = new Object[args.length];
+        String[] texts = inside.isEmpty() ? new String[0] : inside.split(", ");
+        long[] args = new long[texts.length];
         for (int i = 0; i < args.length; i++) {
-            given[i] = types[i] == long.class ? (Object) longOf(args[i]) : (Object) intOf(args[i]);
+            args[i] = numberOf(texts[i], Calls.isLong(name, i));
         }
         calls++;
         if (calls > MOST_CALLS) {
             throw new IllegalStateException("more calls than are promised, behind" + made);
         }
-        try {
-            long got = ((Number) method.invoke(object, given)).longValue();
-            note(told);
-            return got;
-        } catch (ReflectiveOperationException e) {
-            throw new IllegalStateException(told + " behind" + made, e);
-        }
+        long got = Calls.answer(object, name, args);
+        note(told);
+        return got;
     }
 
     /** What is only asked for is not told again where a test fails. */
@@ -86,12 +66,12 @@ final class Run {
         }
     }
 
-    private static Integer intOf(String arg) {
-        return arg.equals("MIN") ? Integer.MIN_VALUE : arg.equals("MAX") ? Integer.MAX_VALUE : Integer.parseInt(arg);
-    }
-
-    private static Long longOf(String arg) {
-        return arg.equals("MIN") ? Long.MIN_VALUE : arg.equals("MAX") ? Long.MAX_VALUE : Long.parseLong(arg);
+    private static long numberOf(String text, boolean isLong) {
+        switch (text) {
+            case "MIN": return isLong ? Long.MIN_VALUE : Integer.MIN_VALUE;
+            case "MAX": return isLong ? Long.MAX_VALUE : Integer.MAX_VALUE;
+            default: return Long.parseLong(text);
+        }
     }
 
     /** Shelf s holds a row of bytes, one for each letter. */
